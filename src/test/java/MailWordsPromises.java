@@ -189,6 +189,7 @@ public final class MailWordsPromises {
         page("a<!>b<?>c", "abc");
         page("a<! x='>'>b", "a'>b");
         page("<<p>", "<\n");
+        page("a<A>b<Z>c<z>d<[>e<{>f<@>g<`>h", "abcd<[>e<{>f<@>g<`>h");
     }
 
     private static void promise4PageHidden() {
@@ -213,6 +214,7 @@ public final class MailWordsPromises {
         page("&lt;p&gt;&amp;lt;&amplt;", "<p>&lt;&amplt;");
         page("&#65;&#65x&#x41;&#x41g&#X41;", "AAxAAg&#X41;");
         page("&#x4aB;&#x4Ab;", "\u04ab\u04ab");
+        page("&#xF;&#xf&#xG;&#xFG", "\u000f\u000f&#xG;\u000fG");
         page("&#0;&#65535;&#65536;&#55295;&#55296;&#57343;&#57344;",
             "\ufffd\uffff\ufffd\ud7ff\ufffd\ufffd\ue000");
         page("&#0000065;&#00000065;&#9999999;", "A&#00000065;\ufffd");
@@ -474,7 +476,8 @@ public final class MailWordsPromises {
             + "rate:rate cease:ceas controll:control roll:roll yyy:yyi ies:i ing:ing eed:eed sses:ss "
             + "as:as is:is playing:plai saying:sai boxing:box snowing:snow trying:try enjoyed:enjoi "
             + "yes:ye toy:toi syzygy:syzygi station:station champion:champion cement:cement element:element "
-            + "national:nation ational:ation abli:abli").split(" ");
+            + "national:nation ational:ation abli:abli activated:activ adjustabled:adjust organized:organ "
+            + "oblivion:oblivion extension:extens agreement:agreement egged:eg adding:ad").split(" ");
         for (String pair : pairs) {
             stem(pair.substring(0, pair.indexOf(':')), pair.substring(pair.indexOf(':') + 1));
         }
