@@ -15,6 +15,7 @@ public final class MailWordsBoundaries {
     private static final int LEAST = Integer.MIN_VALUE;
     private static final int MOST = Integer.MAX_VALUE;
     private static final int FULL = 1500;
+    private static final int PROMISE_AND_NUMBER = "promise00".length();
     private static final String[] BREAKS =
         "p div br tr li ul ol table blockquote h1 h2 h3 h4 h5 h6 pre hr".split(" ");
     private static final String[] HIDDEN = {"script", "style", "title"};
@@ -25,18 +26,24 @@ public final class MailWordsBoundaries {
     private static int wrong = 0;
     private static int asked = 0;
     private static String sentence = "";
+    private static String test = "";
 
     // ---- what the tests are made of
 
     private static void sentence(String words) {
-        sentence = words;
+        sentence = "\"" + words + "\"";
+    }
+
+    /** Words that more than one test is for, and what of them this one looks at. */
+    private static void sentence(String words, String part) {
+        sentence = "\"" + words + "\" (" + part + ")";
     }
 
     private static void due(String call, Object got, Object want) {
         asked++;
         if (!got.equals(want)) {
             wrong++;
-            System.out.println("\"" + sentence + "\": " + call + " answered " + got + ", due is " + want);
+            System.out.println(test + ", " + sentence + ": " + call + " answered " + got + ", due is " + want);
         }
     }
 
@@ -159,7 +166,7 @@ public final class MailWordsBoundaries {
     }
 
     private static void promise00NoCallThrows() {
-        sentence("No call may ever throw or fail to end, for any arguments in any state (LANGUAGE.md, 7)");
+        sentence("No call may ever throw or fail to end, for any arguments in any state", "LANGUAGE.md, 7");
         int[] numbers = {LEAST, -2, -1, 0, 1, 4, 5, 8, 9, 29, 30, 299, 300, 899, 900, 1499, 1500, 1501, MOST};
         String[] texts = {"", "a", "<", "</", "<!", "<!--", "&", "&#", "&#x", "<p a='", ">", "-- ", ":", "\n",
             repeat("\n", FULL), repeat("a.", 750), repeat("<p>", 500), repeat("&", FULL), repeat("s", FULL)};
@@ -187,7 +194,7 @@ public final class MailWordsBoundaries {
     // ---- Promise 1
 
     private static void promise01TextIsEmpty() {
-        sentence("TEXT is empty, nothing is cut: TEXT is empty");
+        sentence("TEXT is empty, nothing is cut.", "TEXT");
         due("at(0)", new MailWords().at(0), NONE);
         due("put(0)", new MailWords().put(0, 65, 65, 65, 65), 0);
         due("page()", new MailWords().page(), 0);
@@ -197,7 +204,7 @@ public final class MailWordsBoundaries {
     }
 
     private static void promise01NothingIsCut() {
-        sentence("TEXT is empty, nothing is cut: nothing is cut");
+        sentence("TEXT is empty, nothing is cut.", "what is cut");
         MailWords x = of("a.b");
         for (int what = 0; what < 5; what++) {
             due("token(0, " + what + ")", x.token(0, what), NONE);
@@ -215,7 +222,8 @@ public final class MailWordsBoundaries {
         String all = "abcdefgh";
         for (int many = 0; many <= 8; many++) {
             MailWords x = new MailWords();
-            due("put(" + many + ")", x.put(many, 'a' << 16 | 'b', 'c' << 16 | 'd', 'e' << 16 | 'f', 'g' << 16 | 'h'), many);
+            due("put(" + many + ")",
+                x.put(many, 'a' << 16 | 'b', 'c' << 16 | 'd', 'e' << 16 | 'f', 'g' << 16 | 'h'), many);
             due("the text of put(" + many + ")", text(x), all.substring(0, many));
         }
     }
@@ -238,7 +246,7 @@ public final class MailWordsBoundaries {
     }
 
     private static void promise02NoneForAnotherMany() {
-        sentence("NONE, and nothing comes, for another many: NONE");
+        sentence("NONE, and nothing comes, for another many.", "NONE");
         for (int many : new int[] {-1, 9, -8, 16, LEAST, MOST}) {
             due("put(" + many + ")", new MailWords().put(many, 0x00410041, 0x00410041, 0x00410041, 0x00410041), NONE);
             due("put(" + many + ") on a full text", of(repeat("a", FULL)).put(many, 0, 0, 0, 0), NONE);
@@ -246,7 +254,7 @@ public final class MailWordsBoundaries {
     }
 
     private static void promise02NothingComesForAnotherMany() {
-        sentence("NONE, and nothing comes, for another many: nothing comes");
+        sentence("NONE, and nothing comes, for another many.", "nothing comes");
         for (int many : new int[] {-1, 9, LEAST, MOST}) {
             MailWords x = of("ab");
             x.put(many, 0x00410041, 0x00410041, 0x00410041, 0x00410041);
@@ -305,7 +313,7 @@ public final class MailWordsBoundaries {
     }
 
     private static void promise03FullAgain() {
-        sentence("`void clear()`: TEXT is empty. (it holds 1500 again)");
+        sentence("`void clear()`: TEXT is empty.", "it takes 1500 again");
         MailWords x = of(repeat("a", FULL));
         x.clear();
         add(x, repeat("b", 1499));
@@ -363,7 +371,7 @@ public final class MailWordsBoundaries {
     }
 
     private static void promise04TagQuotesOnlyBehindAnEqualSign() {
-        sentence("outside of \" .. \" and ' .. ' behind a = (a quote elsewhere is none)");
+        sentence("outside of \" .. \" and ' .. ' behind a =", "a quote elsewhere is none");
         page("x<a b\">\">y", "x\">y");
         page("x<a '>'>y", "x'>y");
         page("x<a'>'>y", "x'>y");
@@ -419,6 +427,13 @@ public final class MailWordsBoundaries {
         page("x<H6>y", "x\ny");
         page("x<TD>y", "x y");
         page("x<StyLE>y</STYle>z", "xz");
+        for (String name : BREAKS) {
+            page("x<" + name.toUpperCase() + ">y", "x\ny");
+        }
+        for (String name : HIDDEN) {
+            page("x<" + name.toUpperCase() + ">y</" + name + ">z", "xz");
+            page("x<" + name + ">y</" + name.toUpperCase() + ">z", "xz");
+        }
     }
 
     // ---- Promise 4: PAGE, what else begins with <
@@ -966,6 +981,12 @@ public final class MailWordsBoundaries {
         lines("--\n  >> b\nc", "0s 2 0");
         lines("--\n>b\n--\nc\n>d", "0s 1 0s 0s 1");
         lines("--\na > b\nc", "0s 0s 0s");
+        MailWords x = of("a\n--\nb");
+        x.lines();
+        x.cut(true);
+        x.lines();
+        due("the first line, looked at anew behind one that is SIGNED", x.line(0, 1), 0);
+        due("cut(true), anew behind a line that is SIGNED", x.cut(true), 1);
     }
 
     private static void promise07LedEndsWithAColon() {
@@ -1045,6 +1066,18 @@ public final class MailWordsBoundaries {
         due("none behind clear() and lines()", x.line(0, 0), NONE);
     }
 
+    private static void promise07OneOrZero() {
+        sentence("its DEPTH (what = 0), 1 if it is SIGNED (1), LED (2), else 0");
+        MailWords x = of("a\n@:\n> b\n--\n@:\n> c");
+        due("lines()", x.lines(), 6);
+        int[][] want = {{0, 0, 0}, {0, 0, 1}, {1, 0, 0}, {0, 1, 0}, {0, 1, 1}, {1, 0, 0}};
+        for (int k = 0; k < want.length; k++) {
+            for (int what = 0; what < 3; what++) {
+                due("line(" + k + ", " + what + ")", x.line(k, what), want[k][what]);
+            }
+        }
+    }
+
     private static void promise07WhereItBeginsAndItsLength() {
         sentence("where it begins (3), its length (4)");
         MailWords x = of("\nab\n\n> c\n");
@@ -1067,7 +1100,7 @@ public final class MailWordsBoundaries {
     }
 
     private static void promise07NoneForNoSuchLine() {
-        sentence("NONE if there is none such, or for another what: none such");
+        sentence("NONE if there is none such, or for another what.", "none such");
         MailWords x = of("a\nb");
         x.lines();
         for (int line : new int[] {-1, 2, 3, 1500, 1501, LEAST, MOST}) {
@@ -1083,7 +1116,7 @@ public final class MailWordsBoundaries {
     }
 
     private static void promise07NoneForAnotherWhat() {
-        sentence("NONE if there is none such, or for another what: another what");
+        sentence("NONE if there is none such, or for another what.", "another what");
         MailWords x = of("a\nb");
         x.lines();
         for (int what : new int[] {-1, 5, 6, LEAST, MOST}) {
@@ -1354,7 +1387,7 @@ public final class MailWordsBoundaries {
     }
 
     private static void promise09NoneForNoSuchToken() {
-        sentence("NONE if there is none such, or for another what: none such");
+        sentence("NONE if there is none such, or for another what.", "none such");
         MailWords x = of("a b");
         x.cut(false);
         for (int token : new int[] {-1, 2, 3, 899, 900, 901, LEAST, MOST}) {
@@ -1374,7 +1407,7 @@ public final class MailWordsBoundaries {
     }
 
     private static void promise09NoneForAnotherWhat() {
-        sentence("NONE if there is none such, or for another what: another what");
+        sentence("NONE if there is none such, or for another what.", "another what");
         MailWords x = of("a b");
         x.cut(false);
         for (int what : new int[] {-1, 5, 6, LEAST, MOST}) {
@@ -1385,7 +1418,7 @@ public final class MailWordsBoundaries {
     }
 
     private static void promise09OfTheLatestCut() {
-        sentence("`int token(int token, int what)`: Of a TOKEN (of the latest cut, whatever TEXT is then)");
+        sentence("Of a TOKEN", "of the latest cut, whatever TEXT is then");
         MailWords x = of("<p>cats");
         x.cut(false);
         x.page();
@@ -1511,31 +1544,48 @@ public final class MailWordsBoundaries {
 
     private static void promise10Step2() {
         sentence("2, if M > 0");
+        // Words whose stem is another one if an ending is left out, or its M is one more or less; in
+        // most, M is 0 or 1 ahead of each ending.
         stems("relational:relat brational:bration conditional:condit tional:tional valenci:valenc benci:benci");
-        stems("hesitanci:hesit banci:banci digitizer:digit bizer:bizer conformabli:conform babli:babli");
-        stems("radicalli:radic balli:balli differentli:differ bentli:bentli vileli:vile beli:beli");
-        stems("analogousli:analog bousli:bousli vietnamization:vietnam bization:bizat predication:predic");
-        stems("bation:bation operator:oper bator:bator feudalism:feudal balism:balism decisiveness:decis");
-        stems("biveness:bive hopefulness:hope bfulness:bful callousness:callous bousness:bous formaliti:formal");
-        stems("baliti:baliti sensitiviti:sensit biviti:biviti sensibiliti:sensibl biliti:biliti");
+        stems("hesitanci:hesit banci:banci digitizer:digit bizer:bizer conformabli:conform babli:babli radicalli:radic");
+        stems("balli:balli differentli:differ bentli:bentli vileli:vile beli:beli analogousli:analog bousli:bousli");
+        stems("vietnamization:vietnam bization:bizat predication:predic bation:bation operator:oper bator:bator");
+        stems("feudalism:feudal balism:balism decisiveness:decis biveness:bive hopefulness:hope bfulness:bful");
+        stems("callousness:callous bousness:bous formaliti:formal baliti:baliti sensitiviti:sensit biviti:biviti");
+        stems("sensibiliti:sensibl biliti:biliti educational:educ abational:abat ational:ation emotional:emot");
+        stems("btional:btional agency:agenc aenci:aenci alanci:alanc fancy:fanci atomizer:atom sizer:sizer alabli:alabl");
+        stems("ably:abli orally:oral ally:alli alentli:alent gently:gentli aleli:al eli:eli alousli:alous aousli:aousli");
+        stems("itemization:item alization:aliz aization:aizat adoration:ador ation:ation orator:orat aator:aator");
+        stems("ahopalism:ahop alism:alism eyativeness:ey awfulness:aw amorality:amor aliti:aliti aboxiviti:abox");
+        stems("aiviti:aiviti albiliti:albl ability:abil");
     }
 
     private static void promise10Step3() {
         sentence("3, if M > 0");
+        // Words whose stem is another one if an ending is left out, or its M is one more or less; in
+        // most, M is 0 or 1 ahead of each ending.
         stems("triplicate:triplic bicate:bicat electriciti:electr biciti:biciti electrical:electr bical:bical");
         stems("formative:form bative:bativ hopeful:hope byful:byful goodness:good byness:byness formalize:formal");
-        stems("balize:baliz");
+        stems("balize:baliz eradicate:erad aicate:aicat aboxiciti:abox aiciti:aiciti atypical:atyp aical:aical");
+        stems("alative:al ative:ativ awful:aw aful:aful alness:al aness:aness aboxalize:abox alize:aliz");
     }
 
     private static void promise10Step4() {
         sentence("4, if M > 1");
+        // Words whose stem is another one if an ending is left out, or its M is one more or less; in
+        // most, M is 1 or 2 ahead of each ending.
         stems("revival:reviv rival:rival allowance:allow balance:balanc inference:infer pretence:pretenc");
         stems("airliner:airlin liner:liner gyroscopic:gyroscop topic:topic adjustable:adjust capable:capabl");
-        stems("defensible:defens visible:visibl irritant:irrit pleasant:pleasant replacement:replac");
-        stems("agreement:agreement adjustment:adjust garment:garment argument:argument dependent:depend");
-        stems("parent:parent adoption:adopt motion:motion homologou:homolog bayou:bayou communism:commun");
-        stems("purism:purism activate:activ climate:climat angulariti:angular caviti:caviti analogousli:analog");
-        stems("nervousli:nervous effective:effect native:nativ bowdlerize:bowdler baptize:baptiz");
+        stems("defensible:defens visible:visibl irritant:irrit pleasant:pleasant replacement:replac agreement:agreement");
+        stems("adjustment:adjust garment:garment argument:argument dependent:depend parent:parent adoption:adopt");
+        stems("motion:motion homologou:homolog bayou:bayou communism:commun purism:purism activate:activ climate:climat");
+        stems("angulariti:angular caviti:caviti analogousli:analog nervousli:nervous effective:effect native:nativ");
+        stems("bowdlerize:bowdler baptize:baptiz amoral:amor abeyance:abey alance:alanc eminence:emin alence:alenc");
+        stems("abuser:abus aver:aver acetic:acet epic:epic adorable:ador arable:arabl eligible:elig edible:edibl");
+        stems("adamant:adam alant:alant opereement:oper abasement:abas element:element aliment:aliment abutment:abut");
+        stems("alment:alment eminent:emin agent:agent edition:edit asion:asion atalou:atal alou:alou animism:anim");
+        stems("agism:agism acetate:acet abate:abat ability:abil amity:amiti arelousli:arel alousli:alous abusive:abus");
+        stems("alive:aliv agonize:agon abize:abiz");
     }
 
     private static void promise10Step4Ion() {
@@ -1580,6 +1630,8 @@ public final class MailWordsBoundaries {
         due("the last letter of the ADDRESS", x.letter(2, false, 2), (int) 'b');
         due("behind it", x.letter(2, false, 3), NONE);
         due("behind its STEM", x.letter(2, true, 3), NONE);
+        due("ahead of a TOKEN that does not begin at 0", x.letter(3, false, -1), NONE);
+        due("ahead of its STEM", x.letter(3, true, -1), NONE);
         for (int token : new int[] {-1, 4, 900, LEAST, MOST}) {
             due("letter(" + token + ", false, 0)", x.letter(token, false, 0), NONE);
             due("letter(" + token + ", true, 0)", x.letter(token, true, 0), NONE);
@@ -1602,11 +1654,19 @@ public final class MailWordsBoundaries {
         different("cats cats1 cat1", 3);
         different("as a s", 3);
         different(repeat("a", 30) + "b " + repeat("a", 30) + "c " + repeat("a", 29), 2);
-        StringBuilder many = new StringBuilder();
-        for (int k = 0; k < 310; k++) {
-            many.append((char) ('a' + k % 26)).append(k / 26).append(' ');
+        String many = unlike(310);
+        different(many, 300);
+        String half = many.substring(0, many.indexOf("u5 "));
+        different(half + half, 150);
+    }
+
+    /** So many rows of which no two are alike. */
+    private static String unlike(int rows) {
+        StringBuilder s = new StringBuilder();
+        for (int k = 0; k < rows; k++) {
+            s.append((char) ('a' + k % 26)).append(k / 26).append(' ');
         }
-        different(many.toString(), 300);
+        return s.toString();
     }
 
     private static void different(String text, int want) {
@@ -1623,7 +1683,7 @@ public final class MailWordsBoundaries {
     }
 
     private static void promise11OfTheLatestCut() {
-        sentence("How many different STEMS the TOKENS have (of the latest cut)");
+        sentence("How many different STEMS the TOKENS have", "those of the latest cut");
         MailWords x = of("a b\n> c");
         x.cut(false);
         due("different()", x.different(), 3);
@@ -1632,6 +1692,11 @@ public final class MailWordsBoundaries {
         add(x, "a\n> b");
         x.cut(true);
         due("different() of a plain cut", x.different(), 1);
+        MailWords y = of(unlike(300));
+        for (int times = 1; times <= 3; times++) {
+            y.cut(false);
+            due("different() of cut " + times, y.different(), 300);
+        }
     }
 
     // ---- Promise 12
@@ -1675,18 +1740,19 @@ public final class MailWordsBoundaries {
 
     // ---- runs every method whose name begins with promise
 
-    private static void run(Method test, Set<String> sentences) throws IllegalAccessException {
+    private static void run(Method method, Set<String> sentences) throws IllegalAccessException {
         int before = asked;
         sentence = "";
+        test = method.getName();
         try {
-            test.invoke(null);
+            method.invoke(null);
         } catch (InvocationTargetException e) {
             wrong++;
-            System.out.println("\"" + sentence + "\": a call threw " + e.getCause());
+            System.out.println(test + ", " + sentence + ": a call threw " + e.getCause());
         }
-        if (asked == before || sentence.isEmpty() || !sentences.add(test.getName().substring(0, 9) + sentence)) {
+        if (asked == before || sentence.isEmpty() || !sentences.add(test.substring(0, PROMISE_AND_NUMBER) + sentence)) {
             wrong++;
-            System.out.println(test.getName() + " asks nothing, or is for no sentence of its own");
+            System.out.println(test + " asks nothing, or is for no sentence of its own");
         }
     }
 
@@ -1698,8 +1764,8 @@ public final class MailWordsBoundaries {
             }
         }
         Set<String> sentences = new TreeSet<>();
-        for (Method test : tests.values()) {
-            run(test, sentences);
+        for (Method method : tests.values()) {
+            run(method, sentences);
         }
         System.out.println(sentences.size() + " sentences, " + asked + " answers asked for, " + wrong + " not as due");
         if (wrong != 0 || sentences.isEmpty()) {
